@@ -68,7 +68,7 @@ public final class TreesLendRings {
     // ==== I. What is told, and what is done by hand
 
     public int oak(int rings) {
-        if (rings < 0 || rings > ALL_YEARS || town.oaks >= OAKS) {
+        if (rings < 0 || rings > ALL_YEARS || !hasRoom(town.oaks, OAKS)) {
             return NONE;
         }
         int number = town.oaks;
@@ -86,7 +86,7 @@ public final class TreesLendRings {
     }
 
     public int person(int own) {
-        if (!isAge(own) || town.persons >= PERSONS) {
+        if (!isAge(own) || !hasRoom(town.persons, PERSONS)) {
             return NONE;
         }
         int number = town.persons;
@@ -116,7 +116,7 @@ public final class TreesLendRings {
     }
 
     public int text() {
-        if (town.textCount >= TEXTS) {
+        if (!hasRoom(town.textCount, TEXTS)) {
             return NONE;
         }
         Text told = reader.read(tape, taped);
@@ -463,13 +463,14 @@ public final class TreesLendRings {
         if (!isAge(age)) {
             return NONE;
         }
-        for (int p = 0; p < town.persons; p++) {
+        int persons = Math.min(town.persons, PERSONS);
+        for (int p = 0; p < persons; p++) {
             lacks[p] = Math.max(0, age - ageOf(town.rings, town.ruler(), p));
         }
         int rings = 0;
-        for (int voters = 0; voters * 2 <= town.persons && voters < town.persons; voters++) {
+        for (int voters = 0; voters * 2 <= persons && voters < persons; voters++) {
             int least = voters;
-            for (int p = voters + 1; p < town.persons; p++) {
+            for (int p = voters + 1; p < persons; p++) {
                 if (lacks[p] < lacks[least]) {
                     least = p;
                 }
@@ -485,7 +486,7 @@ public final class TreesLendRings {
             town.markCount = 0;
             return 0;
         }
-        if (!isKind(kind) || town.markCount >= MARKS) {
+        if (!isKind(kind) || !hasRoom(town.markCount, MARKS)) {
             return OTHER;
         }
         town.marks[town.markCount] = kind;
@@ -611,7 +612,7 @@ public final class TreesLendRings {
             town.saidCount = 0;
             return 0;
         }
-        if (!town.hasPerson(person) || age < LEAST_SAID || age > GREATEST || town.saidCount >= SAID) {
+        if (!town.hasPerson(person) || age < LEAST_SAID || age > GREATEST || !hasRoom(town.saidCount, SAID)) {
             return OTHER;
         }
         town.saidWho[town.saidCount] = person;
@@ -624,7 +625,7 @@ public final class TreesLendRings {
         int texts = 0;
         for (int t = 0; t < town.textCount; t++) {
             boolean so = true;
-            for (int i = 0; i < town.saidCount; i++) {
+            for (int i = 0; i < town.saidCount && i < SAID; i++) {
                 if (ageOf(town.rings, town.textAt(t), town.saidWho[i]) != town.saidAge[i]) {
                     so = false;
                 }
@@ -769,8 +770,13 @@ public final class TreesLendRings {
         return age >= 0 && age <= GREATEST_AGE;
     }
 
+    /** Whether one more can be put behind those that there are. */
+    private static boolean hasRoom(int there, int most) {
+        return there >= 0 && there < most;
+    }
+
     private void putOnTape(int four) {
-        for (int shift = 24; shift >= 0 && taped < TAPE; shift -= 8) {
+        for (int shift = 24; shift >= 0 && hasRoom(taped, TAPE); shift -= 8) {
             tape[taped] = (char) (four >>> shift & 255);
             taped++;
         }

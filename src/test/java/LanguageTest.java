@@ -10,6 +10,7 @@ public final class LanguageTest {
         choices();
         names();
         tokens();
+        ends();
         clauses();
         faultsOfStanding();
         faultsOfNumbers();
@@ -206,6 +207,27 @@ public final class LanguageTest {
         fault("lendsages 1;", 1, 0);
         fine("lends\n\n1 ; ages(1);");
         fine("oak0,1 ,2\n, 3;");
+    }
+
+    /** What was on the tape behind its end isn't read. */
+    private static void ends() {
+        TreesLendRings x = new TreesLendRings();
+        Due.put(x, "lends whox");
+        x.end(9);
+        Due.is("7: up to the end", NONE, x.text());
+        Due.is("8: a word up to the end", 9, x.fault(1));
+        Due.put(x, "day 612");
+        x.end(5);
+        Due.is("7: up to the end", NONE, x.text());
+        Due.is("8: a number up to the end", 1, x.fault(0));
+        Due.put(x, "day 6;$");
+        x.end(6);
+        Due.is("6: without its end it is a text", 0, x.text());
+        Due.put(x, "oak 1;");
+        x.end(0);
+        Due.is("6: nothing is left", 1, x.text());
+        Due.is("14: nothing is done", NONE, x.played(1));
+        Due.is("14: no oak", 0, x.about(0));
     }
 
     private static void clauses() {

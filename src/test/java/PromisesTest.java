@@ -911,6 +911,11 @@ public final class PromisesTest {
         Due.is("37: of five three", 0 + 3 + 8, x.vote(18));
         Due.is("37: all are", 0, x.vote(0));
         Due.is("37: most", 81 + 84 + 89, x.vote(99));
+        TreesLendRings none = new TreesLendRings();
+        none.person(1);
+        Due.is("37: one", 98, none.vote(99));
+        none.back();
+        Due.is("37: without persons again", 0, none.vote(99));
         Due.is("37: below", NONE, x.vote(-1));
         Due.is("37: above", NONE, x.vote(100));
         x.oak(ALL);
@@ -1138,14 +1143,14 @@ public final class PromisesTest {
                 x.person(p);
             }
             for (int y = 2; y < 24; y++) {
-                x.year(y, kind == 1 ? 2 : 1);
+                x.year(y, (kind + 1 + y % 3) % 4);
             }
             x.year(0, kind);
             x.year(1, kind);
             for (int k = 0; k < 4; k++) {
                 x.price(k, k == kind ? 1 : 50);
             }
-            int other = kind == 1 ? 100 : 10;
+            int other = kind == 0 ? 10 : 1;
             for (int p = 0; p < 5; p++) {
                 Due.is("47: both cheap ones of " + kind, 2 * ten[kind], x.cheapest(p, 2, false));
                 Due.is("47: no third of " + kind, 2 * ten[kind] + other, x.cheapest(p, 3, false));
