@@ -30,6 +30,7 @@ public final class TreesLendRings {
     private static final int WINTERS_AT_MOST = 40;
     private static final int GREATEST = 9999;
     private static final int GREATEST_AGE = 99;
+    private static final int GREATEST_PRICE = 99;
     private static final int LEAST_SAID = -999;
     private static final int FIRST_X = 257;
     private static final int LENT_AT_MOST = 15;
@@ -592,7 +593,7 @@ public final class TreesLendRings {
     }
 
     public boolean price(int kind, int price) {
-        if (!isKind(kind) || price < 0 || price > GREATEST_AGE) {
+        if (!isKind(kind) || price < 0 || price > GREATEST_PRICE) {
             return false;
         }
         town.prices[kind] = price;

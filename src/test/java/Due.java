@@ -42,9 +42,13 @@ final class Due {
         return five;
     }
 
+    static byte[] bytes(String text) {
+        return text.getBytes(StandardCharsets.ISO_8859_1);
+    }
+
     /** Makes the tape be this text. */
     static void put(TreesLendRings x, String text) {
-        byte[] bytes = text.getBytes(StandardCharsets.ISO_8859_1);
+        byte[] bytes = bytes(text);
         x.end(0);
         for (int from = 0; from < bytes.length; from += 20) {
             int[] n = numbers(bytes, from);

@@ -6,7 +6,9 @@ import java.nio.file.Files;
 import java.nio.file.Path;
 import java.util.Arrays;
 import java.util.List;
+import java.util.Map;
 import java.util.Set;
+import java.util.TreeMap;
 import java.util.TreeSet;
 import java.util.regex.Matcher;
 import java.util.regex.Pattern;
@@ -42,6 +44,7 @@ public final class RulesTest {
         words(bare);
         classes();
         methods(bare);
+        depth(bare);
         System.out.println(wrong == 0 ? "the rules are kept" : wrong + " rules are not kept");
         if (wrong != 0) {
             System.exit(1);
@@ -178,5 +181,57 @@ public final class RulesTest {
                 breaks("rule 11: parameters: " + lines[i].trim());
             }
         }
+    }
+
+    /** Calls are told apart by their names alone, the library's too; what call one another count as one level. */
+    private static void depth(String bare) {
+        Map<String, Set<String>> calls = new TreeMap<>();
+        Matcher method = Pattern.compile("(?m)^( {4}| {8})(?! )[\\w\\[\\] ]*?(\\w+)\\([^)]*\\) \\{$").matcher(bare);
+        while (method.find()) {
+            int end = bare.indexOf("\n" + method.group(1) + "}\n", method.end());
+            Matcher call = Pattern.compile("\\b(\\w+)\\(").matcher(bare.substring(method.end(), end));
+            Set<String> called = calls.computeIfAbsent(method.group(2), name -> new TreeSet<>());
+            while (call.find()) {
+                if (!Set.of("if", "for", "while", "switch", "return").contains(call.group(1))) {
+                    called.add(call.group(1));
+                }
+            }
+        }
+        Map<String, Set<String>> reached = new TreeMap<>();
+        for (String name : calls.keySet()) {
+            reached.put(name, new TreeSet<>());
+            reach(calls, name, reached.get(name));
+        }
+        for (String name : calls.keySet()) {
+            int levels = levels(calls, reached, name);
+            if (levels > 8) {
+                breaks("rule 11: calls go " + levels + " deep from " + name);
+            }
+        }
+    }
+
+    private static void reach(Map<String, Set<String>> calls, String from, Set<String> reached) {
+        for (String name : calls.getOrDefault(from, Set.of())) {
+            if (reached.add(name)) {
+                reach(calls, name, reached);
+            }
+        }
+    }
+
+    private static boolean reaches(Map<String, Set<String>> reached, String from, String to) {
+        return reached.getOrDefault(from, Set.of()).contains(to);
+    }
+
+    private static int levels(Map<String, Set<String>> calls, Map<String, Set<String>> reached, String from) {
+        int deepest = 0;
+        for (String level : calls.keySet()) {
+            boolean isOfLevel = level.equals(from) || reaches(reached, from, level) && reaches(reached, level, from);
+            for (String name : isOfLevel ? calls.get(level) : Set.<String>of()) {
+                if (!reaches(reached, name, from) && !name.equals(from)) {
+                    deepest = Math.max(deepest, levels(calls, reached, name));
+                }
+            }
+        }
+        return 1 + deepest;
     }
 }
