@@ -30,6 +30,7 @@ public final class BoundsTest {
         playedDays();
         playedToTheFull();
         lawsOfThePersonThatIsLentTo();
+        fiveHundredAndTwelveCalls();
         Due.finish();
     }
 
@@ -597,5 +598,36 @@ public final class BoundsTest {
         Due.yes("10: one again", x.lend(0, 2, 1));
         Due.no("12: holds two", x.pass(0, 1, 1));
         Due.no("12: OWN 0", x.pass(0, 1, 0));
+    }
+
+    /** Up to the last call that an object is used for, all is answered; by calls of one sort, and by those of several. */
+    private static void fiveHundredAndTwelveCalls() {
+        TreesLendRings x = wood(5, 5);
+        for (int i = 0; i < 167; i++) {
+            Due.yes("10: again", x.lend(i % 5, i % 24, i % 4));
+            Due.yes("12: again", x.pass(i % 5, i % 24, 4));
+            Due.yes("11: again", x.returned(i % 5, i % 24));
+        }
+        Due.is("59: call 512", 30, x.about(4));
+        TreesLendRings w = wood(5, 5);
+        for (int i = 0; i < 501; i++) {
+            w.winters(i, 40);
+        }
+        Due.yes("15: call 512", w.winters(0, 40) > 9969);
+        TreesLendRings t = new TreesLendRings();
+        for (int i = 0; i < 170; i++) {
+            t.back();
+            t.feed(0x61676573, 0x20313b20, 0x20202020, 0x20202020, 0x20202020);
+            Due.is("7: the first again and again", 0, t.text());
+        }
+        Due.is("59: call 511", 1, t.about(2));
+        Due.is("14: call 512", NONE, t.played(0));
+        TreesLendRings f = new TreesLendRings();
+        for (int i = 0; i < 255; i++) {
+            f.feed(0x61676573, i, i, i, i);
+            Due.is("7: with a FAULT again and again", NONE, f.text());
+        }
+        Due.is("8: call 511", 1, f.fault(0));
+        Due.is("8: call 512", 4, f.fault(1));
     }
 }
