@@ -362,6 +362,8 @@ public final class TextBoundsTest {
             fault(open + last, 1, 299);
         }
         fault(open + " ", 1, 300);
+        fault("ages " + "1+".repeat(146) + "own", 1, 300);
+        fault("ages " + "1+".repeat(146) + "owx", 1, 297);
         fault("ages " + "1+".repeat(147) + "(", 1, 300);
         fine("ages 1;" + " ".repeat(292) + "\n");
         fine(" ".repeat(294) + "day 1;");
